@@ -27,6 +27,7 @@ final class Check {
             System.out.println(wrong + " of " + asked + " answers are not as due");
             System.exit(1);
         }
+        System.out.println(asked + " answers are as due");
     }
 
     /** The text comes behind the tape. */
