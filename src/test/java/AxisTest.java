@@ -244,6 +244,19 @@ public final class AxisTest {
         Check.due("not refused by that", x.axisAt(1, 7), 0);
         Check.no("refused now", x.to(1, 50));
         Check.due("counted", x.axisAt(1, 7), 1);
+        for (int n = 0; n < 8; n++) {
+            StageHouse y = new StageHouse();
+            y.axis(n, 0, 100, 10, 10);
+            y.event(1, true);
+            Check.lock(y, n, "event 1");
+            Check.yes("axis " + n, y.to(n, 100));
+            y.tick(1);
+            y.event(1, false);
+            y.tick(1);
+            Check.due("axis " + n + " lost its target", y.axisAt(n, 3), -1);
+            Check.no("axis " + n + " is refused", y.to(n, 100));
+            Check.due("axis " + n + " counts", y.told(6), 1);
+        }
     }
 
     private static void stillness() {

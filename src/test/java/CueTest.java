@@ -74,6 +74,8 @@ public final class CueTest {
         Check.no("no list", x.play(4, 1, 0));
         Check.no("not in that list", x.play(0, 1, 0));
         Check.no("0 and 105", x.play(2, 0, 105));
+        Check.no("2 and 100 is not 3", x.play(2, 2, 100));
+        Check.no("4 and -100 is not 3", x.play(2, 4, -100));
         Check.due("stays", x.of(2, 0), 105);
         Check.yes("back", x.play(2, 1, 0));
         Check.due("level of 1", x.level(2, 1), 0);

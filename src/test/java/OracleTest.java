@@ -20,7 +20,17 @@ public final class OracleTest {
 
     private static void ways(Random random) {
         StageHouse x = new StageHouse();
-        int nodes = 2 + random.nextInt(5);
+        for (int turn = 0; turn < 2; turn++) {
+            int nodes = 2 + random.nextInt(random.nextInt(5) == 0 ? 10 : 5);
+            int[][] ways = anyWays(x, random, nodes);
+            for (int again = 0; again < 2; again++) {
+                compareTimes(x, random, nodes, ways);
+            }
+            x.clearWays();
+        }
+    }
+
+    private static int[][] anyWays(StageHouse x, Random random, int nodes) {
         int count = random.nextInt(2) == 0 ? 1 + random.nextInt(6) : 8 + random.nextInt(13);
         int[][] ways = new int[count][];
         int widest = random.nextInt(3) == 0 ? 50 : 4;
@@ -32,9 +42,13 @@ public final class OracleTest {
             ways[w] = new int[] {from, to, 1 + random.nextInt(widest), 1 + random.nextInt(longest)};
             Check.due("way", x.way(from, to, ways[w][2], ways[w][3]), w);
         }
+        return ways;
+    }
+
+    private static void compareTimes(StageHouse x, Random random, int nodes, int[][] ways) {
         int[] crowds = new int[12];
         int people = 0;
-        for (int v = 0; v < nodes; v++) {
+        for (int v = 0; v < Math.min(11, nodes); v++) {
             crowds[v] = random.nextInt(3) == 0 ? 0 : random.nextInt(random.nextInt(3) == 0 ? 61 : 12);
             people += crowds[v];
             x.crowd(v, crowds[v]);

@@ -88,6 +88,9 @@ public final class TextTest {
         Check.faultyList("cue 1 ^\f{ }", 1);
         Check.faultyList("cue 1 ^\u00e9 { }", 1);
         Check.faultyList("^Cue 1 { }", 1);
+        Check.faultyList("^cuez 1 { }", 1);
+        Check.faultyList("cue ^1z { }", 1);
+        Check.faultyList("cue 1 { channels 1 ^atz 5; }", 1);
         Check.faultyList("cue 1 { } ^;", 1);
         Check.faultyList("cue 1 { }   ^\u0000", 1);
     }
@@ -175,6 +178,10 @@ public final class TextTest {
         Check.faultyList(acts + "^channels ? }", 2);
         Check.faultyList(acts + "^left 1; }", 1);
         Check.faultyList(acts + "} cue 3 { ^fire 1; }", 2);
+        String one = "cue 1 {" + Check.many("let 1;", 300);
+        Check.due("300 acts of one cue", Check.list(x, 0, one + "}"), 1);
+        Check.faultyList(one + "^fire 1; }", 2);
+        Check.due("least numbers", Check.list(x, 0, "cue 1 { axis 0 to 0; channels 1 at 0; fire 0; go 0 1; master 0 at 0; }"), 1);
     }
 
     private static void lockTexts() {
@@ -232,6 +239,8 @@ public final class TextTest {
         Check.faultyRules("section 7: - ^100000;", 1);
         Check.faultyRules("section 7: ^/ 5;", 1);
         Check.faultyRules("section 7: ^5;", 1);
+        Check.faultyRules("section 7: ^;", 1);
+        Check.faultyRules("section 7 ^;", 1);
         Check.faultyRules("section 7, ^: @ 5;", 1);
         Check.faultyRules("section 7 ^% 5;", 1);
         Check.faultyRules("section 7: @ 5^", 1);

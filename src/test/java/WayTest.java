@@ -77,6 +77,12 @@ public final class WayTest {
         x.way(1, 11, 3, 2);
         x.crowd(0, 10);
         Check.due("they wait at 1", x.empty(), 6);
+        x.crowd(0, 0);
+        x.crowd(1, 10);
+        Check.due("they wait from the beginning", x.empty(), 5);
+        x.crowd(0, 10);
+        x.crowd(1, 0);
+        Check.due("nothing is left of that", x.empty(), 6);
         x.way(0, 1, 50, 20);
         Check.due("a slow way more", x.empty(), 6);
         x.way(1, 11, 7, 20);
@@ -113,6 +119,20 @@ public final class WayTest {
         Check.due("two by the common one", x.empty(), 3);
         x.crowd(1, 3);
         Check.due("three by the common one", x.empty(), 4);
+        waitTakenBack();
+    }
+
+    /** One of the two at 0 who waited for the short way has to take the long one at once, when four more come. */
+    private static void waitTakenBack() {
+        StageHouse x = new StageHouse();
+        x.way(0, 11, 1, 1);
+        x.way(0, 11, 1, 5);
+        x.way(1, 0, 4, 1);
+        x.crowd(0, 2);
+        x.crowd(1, 4);
+        Check.due("six by 5", x.empty(), 5);
+        x.crowd(1, 5);
+        Check.due("seven by 6", x.empty(), 6);
     }
 
     private static void limits() {
@@ -151,5 +171,7 @@ public final class WayTest {
         Check.due("no way", x.empty(), -1);
         Check.due("numbers from 0 on", x.way(0, 11, 1, 5), 0);
         Check.due("one", x.empty(), 5);
+        x.crowd(0, 3);
+        Check.due("by this way alone", x.empty(), 7);
     }
 }
