@@ -3,6 +3,7 @@ public final class TextTest {
     public static void main(String[] args) {
         newObject();
         tape();
+        endOfTape();
         tokens();
         listTexts();
         listLimits();
@@ -70,6 +71,30 @@ public final class TextTest {
         x.feed(0, 0, 0, 0, 0);
         Check.due("zero bytes in shares", x.shares(), -10);
         Check.due("used up by shares", x.cut(1), -1);
+    }
+
+    /** Bytes that were cut away, or that an older text left, are not looked at; nor is what is beyond byte 4000. */
+    private static void endOfTape() {
+        StageHouse x = new StageHouse();
+        Check.text(x, "manymany");
+        x.cut(4);
+        Check.due("a word that was cut", x.rules(), -14);
+        Check.text(x, "event 123");
+        x.cut(7);
+        Check.due("a number that was cut", x.lock(0), 0);
+        Check.text(x, "event 1abc");
+        x.cut(7);
+        Check.due("a letter that was cut", x.lock(0), 0);
+        Check.text(x, "event 1 ; ");
+        x.cut(8);
+        Check.due("a sign that was cut", x.lock(0), 0);
+        String blanks = Check.many(" ", 3993);
+        Check.due("a number at the very end", Check.lock(x, 0, blanks + "event 1"), 0);
+        Check.due("a word at the very end", Check.lock(x, 0, blanks + "  event"), -10 - 4000);
+        Check.due("a sign at the very end", Check.lock(x, 0, blanks + "event 1".substring(0, 6) + ")"), -10 - 3999);
+        Check.due("blanks to the very end", Check.list(x, 0, Check.many(" ", 4000)), 0);
+        Check.due("a long number", Check.lock(x, 0, Check.many("9", 4000)), -10);
+        Check.due("a long word", Check.lock(x, 0, Check.many("z", 4000)), -10);
     }
 
     private static void tokens() {
