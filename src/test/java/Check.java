@@ -70,7 +70,7 @@ final class Check {
         return x.shares();
     }
 
-    /** The last 'at' of a text is where the fault is due; the mark '^' itself is taken out. */
+    /** The mark '^' is where the fault is due; it is taken out of the text itself. */
     static void faultyList(String marked, int fault) {
         StageHouse x = new StageHouse();
         due("list: " + marked, list(x, 0, marked.replace("^", "")), -10 - marked.indexOf('^'));
