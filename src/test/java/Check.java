@@ -1,17 +1,42 @@
 /** What the project's tests share: counting wrong answers, and texts told as the numbers of feed(). */
 final class Check {
+    private static final int PROMISES = 40;
+    private static final int[] ASKED_OF = new int[PROMISES + 1];
     private static int wrong = 0;
     private static int asked = 0;
+    private static int promise = 0;
 
     private Check() {
     }
 
+    /** What is asked from now on is of this promise; its number is printed ahead of a wrong answer. */
+    static void promise(int number) {
+        promise = number;
+    }
+
     static void due(String what, long got, long want) {
         asked++;
+        ASKED_OF[promise]++;
         if (got != want) {
             wrong++;
-            System.out.println(what + " answered " + got + ", due is " + want);
+            System.out.println((promise > 0 ? "promise " + promise + ": " : "") + what + " answered " + got + ", due is " + want);
         }
+    }
+
+    static void same(String what, String got, String want) {
+        due(what, got.equals(want) ? 1 : 0, 1);
+        if (!got.equals(want)) {
+            System.out.println("  it is  " + got + "\n  due is " + want);
+        }
+    }
+
+    /** No promise may be without a test. */
+    static void eachPromise() {
+        for (int number = 1; number <= PROMISES; number++) {
+            promise = number;
+            yes("is asked for", ASKED_OF[number] > 0);
+        }
+        promise = 0;
     }
 
     static void yes(String what, boolean got) {
