@@ -17,6 +17,7 @@ final class AxisEdges {
         toEnds();
         toRefusedByEach();
         toTarget();
+        letEdges();
         Check.promise(20);
         axisAtNone();
         locksAtTheirBounds();
@@ -24,6 +25,7 @@ final class AxisEdges {
         Check.promise(21);
         faultsNone();
         faultsEach();
+        deadOnItsWay();
         slowHalves();
         Check.promise(22);
         stopEdges();
@@ -196,6 +198,48 @@ final class AxisEdges {
         Check.due("at its place", x.axisAt(0, 1), 10);
     }
 
+    /** let of one that is there, with a target or without, and of one that is not there. */
+    private static void letEdges() {
+        StageHouse x = new StageHouse();
+        Check.list(x, 0, "cue 1 { let 0; let 7; let 3; axis 3 to 5; } cue 2 { axis 0 to 9; let 0; axis 7 to 9; let 7; axis 7 to 8; }");
+        x.axis(0, 0, 100, 4, 2);
+        x.axis(7, 0, 100, 4, 2);
+        x.to(0, 100);
+        x.tick(2);
+        x.go(0);
+        Check.due("no target", x.axisAt(0, 3), -1);
+        Check.due("none as before", x.axisAt(7, 3), -1);
+        Check.due("not there", x.axisAt(3, 0), 0);
+        Check.due("refused by the act behind", x.told(6), 1);
+        x.tick(1);
+        Check.due("comes to rest", x.axisAt(0, 2), 2);
+        x.go(0);
+        Check.due("in order", x.axisAt(0, 3), -1);
+        Check.due("in order too", x.axisAt(7, 3), 8);
+        actsAlone();
+    }
+
+    /** Each act does what it is told and nothing of the others' kinds, though they bear one number. */
+    private static void actsAlone() {
+        String[] acts = {"axis 1 to 5", "let 1", "fire 1", "go 1 1", "master 1 at 9", "channels 1 at 9"};
+        for (int i = 0; i < acts.length; i++) {
+            StageHouse x = new StageHouse();
+            x.axis(1, 0, 100, 4, 2);
+            x.to(1, 50);
+            Check.lock(x, 0, "event 1");
+            Check.list(x, 1, "cue 1 { }");
+            Check.list(x, 0, "cue 1 { " + acts[i] + "; }");
+            x.go(0);
+            Check.due("target behind " + acts[i], x.axisAt(1, 3), i == 0 ? 5 : i == 1 ? -1 : 50);
+            Check.due("event behind " + acts[i], x.axisAt(0, 6), i == 2 ? 1 : 0);
+            Check.due("cue behind " + acts[i], x.of(1, 0), i == 3 ? 100 : 0);
+            Check.due("master behind " + acts[i], x.of(1, 3), i == 4 ? 9 : 255);
+            Check.due("level behind " + acts[i], x.level(0, 1), i == 5 ? 9 : 0);
+            Check.due("level of the other list behind " + acts[i], x.level(1, 1), 0);
+            Check.due("refused behind " + acts[i], x.told(6), 0);
+        }
+    }
+
     private static void axisAtNone() {
         StageHouse x = new StageHouse();
         int[] none = {-1, 8, LEAST, MOST};
@@ -226,8 +270,8 @@ final class AxisEdges {
         x.axis(0, 0, 99999, 999, 999);
         x.axis(7, 99998, 99999, 1, 1);
         String[] texts = {"axis 0 < 0", "axis 0 < 1", "axis 0 > 0", "axis 7 < 99998", "axis 7 < 99999", "axis 7 > 99998", "axis 7 > 99997",
-            "axis 7 > 99999", "axis 1 < 99999", "axis 1 > 0", "!axis 1 > 0", "still 1", "still 0"};
-        int[] want = {0, 1, 0, 0, 1, 0, 1, 0, 0, 0, 1, 1, 1};
+            "axis 7 > 99999", "axis 7 < 0", "axis 0 > 99999", "axis 1 < 99999", "axis 1 > 0", "!axis 1 > 0", "still 1", "still 0"};
+        int[] want = {0, 1, 0, 0, 1, 0, 1, 0, 0, 0, 0, 0, 1, 1, 1};
         for (int i = 0; i < texts.length; i++) {
             Check.lock(x, 3, texts[i]);
             Check.due(texts[i], x.axisAt(3, 6), want[i]);
@@ -312,6 +356,22 @@ final class AxisEdges {
             Check.yes("it can have one", x.to(7, 90));
             x.tick(1);
             Check.due("seen again", x.axisAt(7, 4), x.axisAt(7, 1));
+        }
+    }
+
+    /** One that comes to rest without a target is seen, and has its whole speed yet. */
+    private static void deadOnItsWay() {
+        StageHouse x = new StageHouse();
+        x.axis(0, 0, 1000, 20, 5);
+        x.to(0, 1000);
+        x.tick(4);
+        Check.due("at 50", x.axisAt(0, 4), 50);
+        x.faults(0, 1);
+        int[] places = {65, 75, 80, 80};
+        for (int place : places) {
+            x.tick(1);
+            Check.due("its place", x.axisAt(0, 1), place);
+            Check.due("seen there", x.axisAt(0, 4), place);
         }
     }
 
@@ -411,21 +471,36 @@ final class AxisEdges {
 
     /** The distances at which x + BRAKE(x) just fits, and one less. */
     private static void brakes() {
-        int[][] runs = {{16, 4, 8, 4, 0}, {15, 4, 7, 4, 0}, {4, 4, 0, 0, 0}, {3, 3, 0, 0, 0}, {1, 1, 0, 0, 0}, {5, 4, 1, 0, 0},
+        int[][] runs = {{9, 4, 4, 1, 0}, {10, 4, 5, 1, 0}, {16, 4, 8, 4, 0}, {15, 4, 7, 4, 0}, {4, 4, 0, 0, 0}, {3, 3, 0, 0, 0}, {1, 1, 0, 0, 0}, {5, 4, 1, 0, 0},
             {40, 4, 8, 12, 9, 5, 2, 0}, {36, 4, 8, 12, 8, 4, 0}, {35, 4, 8, 11, 8, 4, 0}};
         for (int[] run : runs) {
-            StageHouse x = new StageHouse();
-            x.axis(0, 0, 1000, 12, 4);
-            x.to(0, run[0]);
-            int at = 0;
+            moves(12, 4, run);
+        }
+        int[][] slow = {{6, 1, 2, 2, 1, 0}, {8, 1, 2, 2, 2, 1, 0}, {9, 1, 2, 3, 2, 1, 0}, {10, 1, 2, 3, 2, 1, 1, 0}};
+        for (int[] run : slow) {
+            moves(3, 1, run);
+        }
+        int[][] fast = {{998, 998, 0}, {999, 999, 0}, {1000, 999, 1, 0}, {1998, 999, 999, 0}, {1999, 999, 999, 1, 0}};
+        for (int[] run : fast) {
+            moves(999, 999, run);
+        }
+    }
+
+    /** To run[0], by the speeds that follow, and back by the same. */
+    private static void moves(int speed, int acc, int[] run) {
+        StageHouse x = new StageHouse();
+        x.axis(0, 0, 99999, speed, acc);
+        int at = 0;
+        for (int sign = 1; sign >= -1; sign -= 2) {
+            x.to(0, sign > 0 ? run[0] : 0);
             for (int i = 1; i < run.length; i++) {
                 x.tick(1);
-                at += run[i];
-                Check.due("speed " + i + " to " + run[0], x.axisAt(0, 2), run[i]);
+                at += sign * run[i];
+                Check.due("speed " + i + " to " + run[0], x.axisAt(0, 2), sign * run[i]);
                 Check.due("place " + i + " to " + run[0], x.axisAt(0, 1), at);
             }
             x.tick(9);
-            Check.due("there", x.axisAt(0, 1), run[0]);
+            Check.due("there", x.axisAt(0, 1), sign > 0 ? run[0] : 0);
             Check.due("without a target", x.axisAt(0, 3), -1);
         }
     }
@@ -500,9 +575,12 @@ final class AxisEdges {
                 x.tick(20);
                 Check.due("full speed", x.axisAt(0, 2), 8 * sign);
                 x.stop(true);
+                int at = x.axisAt(0, 1);
                 for (int k = 0; k < 2; k++) {
                     x.tick(1);
+                    at += want[i][k] * sign;
                     Check.due("nearer to 0 by " + accs[i], x.axisAt(0, 2), want[i][k] * sign);
+                    Check.due("its place grows by that", x.axisAt(0, 1), at);
                 }
             }
         }
@@ -527,6 +605,20 @@ final class AxisEdges {
         x.tick(2);
         Check.due("true again", x.axisAt(7, 6), 1);
         Check.due("no target comes back", x.axisAt(7, 3), -1);
+        StageHouse all = new StageHouse();
+        all.event(1, true);
+        for (int n = 0; n < 8; n++) {
+            all.axis(n, 0, 100, 10, 10);
+            Check.lock(all, n, "event 1");
+            all.to(n, 100);
+        }
+        all.tick(1);
+        all.event(1, false);
+        all.tick(1);
+        for (int n = 0; n < 8; n++) {
+            Check.due("axis " + n + " has no target", all.axisAt(n, 3), -1);
+            Check.due("axis " + n + " does not move on", all.axisAt(n, 1), 10);
+        }
     }
 
     /** Lists by numbers ahead of axes; one whose wait is over begins, else one whose follow is over goes. */

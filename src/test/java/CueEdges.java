@@ -27,6 +27,7 @@ final class CueEdges {
         followTakenAway();
         movingEdges();
         toldAnew();
+        optionsAnew();
         Check.promise(13);
         levelNone();
         spans();
@@ -43,6 +44,7 @@ final class CueEdges {
         patchEnds();
         Check.promise(16);
         grandEnds();
+        grandEach();
         Check.promise(17);
         wireNone();
         curves();
@@ -314,6 +316,13 @@ final class CueEdges {
         Check.due("not yet", x.of(0, 0), 300);
         x.tick(1);
         Check.due("goes at last", x.of(0, 0), 400);
+        Check.list(x, 0, "cue 1 follow 2 { channels 1 at 3; }");
+        x.go(0);
+        x.tick(2);
+        Check.due("none is behind: it went nowhere", x.of(0, 0), 100);
+        Check.due("and does not go again", x.of(0, 2), -1);
+        x.tick(5);
+        Check.due("nor later", x.of(0, 2), -1);
     }
 
     private static void followTakenAway() {
@@ -360,6 +369,36 @@ final class CueEdges {
         x.tick(9);
         Check.due("nothing comes", x.of(2, 0), 0);
         Check.due("no level", x.level(2, 1), 0);
+        Check.list(x, 2, "cue 1 wait 4 { channels 1 at 5; }");
+        x.go(2);
+        Check.list(x, 2, "cue 1 wait 4 { channels 1 at 5; }");
+        Check.due("nothing is to come", x.of(2, 1), 0);
+        x.tick(9);
+        Check.due("nor comes it", x.level(2, 1), 0);
+    }
+
+    /** A text knows nothing of those told before it, however often one is told. */
+    private static void optionsAnew() {
+        StageHouse x = new StageHouse();
+        for (int turn = 0; turn < 4; turn++) {
+            for (int l = 0; l < 4; l++) {
+                Check.list(x, l, "cue 1 up 9 down 9 wait 9 follow 9 block link 2 { channels 1 at 9; } cue 2 block { }"
+                        + "cue 3 up 9 down 9 wait 9 follow 9 block link 1 { }");
+            }
+            int l = turn;
+            Check.list(x, l, "cue 1 { channels 1,2 at 7; } cue 3 { channels 2 at 1; } cue 4 { }");
+            x.go(l);
+            Check.due("no wait", x.of(l, 1), 0);
+            Check.due("no follow", x.of(l, 2), -1);
+            Check.due("no up", x.level(l, 1), 7);
+            x.go(l);
+            Check.due("no link", x.of(l, 0), 300);
+            Check.due("no block", x.level(l, 1), 7);
+            Check.due("no down", x.level(l, 2), 1);
+            x.go(l);
+            Check.due("no link of the third", x.of(l, 0), 400);
+            Check.due("no block of the third", x.tracks(l, 4, 0, 1), 7);
+        }
     }
 
     private static void levelNone() {
@@ -609,6 +648,21 @@ final class CueEdges {
         Check.yes("the greatest", x.grand(255));
         Check.due("full", x.wire(0), 255);
         Check.due("OUT knows no grand", x.out(1), 255);
+    }
+
+    /** Each grand with some levels: the nearest is told. */
+    private static void grandEach() {
+        int[] levels = {254, 200, 101, 3};
+        for (int level : levels) {
+            StageHouse x = new StageHouse();
+            Check.list(x, 0, "cue 1 { channels 1 at " + level + "; }");
+            x.go(0);
+            x.patch(0, 1, 0);
+            for (int n = 0; n < 256; n += level == 254 ? 2 : 3) {
+                x.grand(n);
+                Check.due(level + " by " + n, x.wire(0), Math.round(level * n / 255.0));
+            }
+        }
     }
 
     private static void wireNone() {

@@ -422,6 +422,19 @@ final class MoneyEdges {
         due(x, 1, 5, 0, 1);
     }
 
+    /** By hand: 97 times 89 times 83 less 1 is 716538, which has no part in common with 1, 97, 97 times 89. */
+    private static void leastNumbers() {
+        StageHouse x = new StageHouse();
+        x.section(0, 1);
+        x.row(0, 0, 1);
+        x.ask(0, 0, 1, 0, 0, 9);
+        x.pay(0, 1);
+        Check.shares(x, "0: 3 % of 0 + 1 % of 1; 1: 11 % of 1 + 1 % of 2; 2: 17 % of 2 + 1 % of 0 + 1 % of taken;");
+        due(x, 0, 0, 1, 716538);
+        due(x, 1, 0, 97, 716538);
+        due(x, 2, 0, 8633, 716538);
+    }
+
     private static void shareOfTaken() {
         StageHouse x = new StageHouse();
         Check.rules(x, "day 0: @ 99999; day 0: + 99999;");
@@ -443,6 +456,7 @@ final class MoneyEdges {
         due(x, 0, 100L * taken, 0, 1);
         due(x, 1, 10000L * taken, 0, 1);
         due(x, 2, 1000000L * taken, 0, 1);
+        leastNumbers();
         StageHouse y = held(0, 1, 0, 0);
         Check.shares(y, "0: 100 % of taken;");
         due(y, 0, 0, 0, 1);

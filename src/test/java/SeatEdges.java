@@ -330,6 +330,14 @@ final class SeatEdges {
         z.row(0, 1, 3);
         z.ask(0, 0, 3, 0, 0, 9);
         Check.due("3 and 0 before 6 and 3", z.hold(0, 0), 1);
+        StageHouse far = new StageHouse();
+        far.row(0, 0, 30);
+        far.row(1, 0, 30);
+        far.ask(0, 0, 2, 0, 0, 9);
+        far.ask(0, 0, 2, 0, 0, 9);
+        Check.due("3 and 0 before 0 and 4", far.hold(1, 0), 1);
+        far.ask(0, 0, 2, 0, 0, 9);
+        Check.due("0 and 4 before 3 and 4", far.hold(2, 0), 0);
         StageHouse w = new StageHouse();
         w.row(0, 0, 4);
         w.row(1, 0, 1);

@@ -320,6 +320,7 @@ public final class SeatTest {
         Check.due("seats sold", sold, 5);
     }
 
+    /** Beyond the 512th call answers are free, so no run that is promised comes so far: here the class just stays sound. */
     private static void threeHundred() {
         StageHouse x = new StageHouse();
         x.row(0, 0, 1);

@@ -203,6 +203,19 @@ final class TapeEdges {
         Check.due("the second goes", x.cut(9), 9);
         Check.text(x, "kind 1:-1;");
         Check.due("another comes behind", x.rules(), 2);
+        String[] behind = {"1", "a", "z", " ;", "?"};
+        for (String more : behind) {
+            Check.text(x, "event 1" + more);
+            x.cut(7);
+            Check.due("what was cut is not looked at: " + more, x.lock(0), 0);
+        }
+        Check.text(x, "eventevent");
+        x.cut(5);
+        Check.text(x, " 9");
+        Check.due("a word that was cut", x.lock(0), 0);
+        Check.text(x, "event 1 | event 2");
+        x.cut(9);
+        Check.due("the end is where it was cut", x.lock(0), -10 - 9);
     }
 
     /** The four texts use the tape up, whatever they answer. */

@@ -102,6 +102,8 @@ final class TextEdges {
         Check.faultyList("cue 1 ^/ { }", 1);
         Check.faultyList("^cuecuecuecue 1 { }", 1);
         Check.faultyList("^cuecuecuecuec 1 { }", 1);
+        Check.faultyList("^cuez 1 { }", 1);
+        Check.faultyList("^cuea 1 { }", 1);
         Check.faultyList("^cu e 1 { }", 1);
         Check.faultyList("^cu", 1);
         Check.faultyList("^c", 1);
@@ -259,6 +261,10 @@ final class TextEdges {
         Check.faultyList(full + "^;}", 1);
         Check.faultyList(full + "}cue 2{^axis 1 to 1;}", 2);
         Check.faultyList(full + "}cue ^1{let 1;}", 3);
+        StageHouse x = new StageHouse();
+        for (int turn = 0; turn < 6; turn++) {
+            Check.due("each text has acts of its own", Check.list(x, turn % 2, "cue 1{" + Check.many("let 1;", 200) + "}"), 1);
+        }
         String parted = cues(59).replace("{}", "{let 1;fire 1;go 1 1;let 1;fire 1;}") + "cue 60{";
         soundList(parted + Check.many("let 1;", 5) + "}", 60);
         Check.faultyList(parted + Check.many("let 1;", 5) + "^master 1 at 1;}", 2);
@@ -390,6 +396,11 @@ final class TextEdges {
     }
 
     private static void lockEnds() {
+        soundLock(Check.many(" ", 3993) + "event 1");
+        Check.faultyLock(Check.many(" ", 3993) + "event ^)", 1);
+        Check.faultyLock(Check.many(" ", 3995) + "event^", 1);
+        Check.faultyLock("^" + Check.many("9", 4000), 1);
+        Check.faultyLock("^" + Check.many("z", 4000), 1);
         String[] texts = {"^", "  ^", "event^", "event 1 &^", "event 1 |^", "!^", "(^", "(event 1^", "axis^", "axis 1^", "axis 1 <^",
             "still ^", "event 1 ^)", "event 1 ^event 1", "(event 1) ^)", "(^)", "^)", "event 1 ^! event 1", "event 1 & ^& event 1",
             "event 1 | ^| event 1", "event 1 ^;", "(event 1 ^; )"};

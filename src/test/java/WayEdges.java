@@ -129,6 +129,11 @@ final class WayEdges {
         x.crowd(0, 2);
         Check.due("by the new way", x.empty(), 5);
         Check.due("no time went by", x.told(5), 0);
+        x.clearWays();
+        x.way(1, 11, 1, 1);
+        x.way(0, 11, 1, 20);
+        x.crowd(0, 2);
+        Check.due("nothing is left of the old ways", x.empty(), 21);
     }
 
     private static void nobody() {
@@ -148,7 +153,7 @@ final class WayEdges {
         StageHouse x = new StageHouse();
         x.crowd(5, 1);
         Check.due("no way at all", x.empty(), -1);
-        x.way(11, 5, 1, 1);
+        Check.due("outside is a node too", x.way(11, 5, 1, 1), 0);
         x.way(5, 6, 1, 1);
         x.way(6, 5, 1, 1);
         Check.due("none that leads outside", x.empty(), -1);
