@@ -2,7 +2,7 @@ import java.util.ArrayList;
 import java.util.List;
 import java.util.Random;
 
-/** Random lists, played against a plain model that steps every channel at every tick. */
+/** Random lists that move axes too, played against a plain model that steps every channel at every tick. */
 public final class ListOracleTest {
     private static final class Cue {
         int name;
@@ -30,7 +30,7 @@ public final class ListOracleTest {
 
     private Player[] lists = new Player[4];
     private final int[] last = new int[65];
-    private final boolean[] events = new boolean[16];
+    private final PlainRig rig = new PlainRig();
     private final StageHouse x = new StageHouse();
     private final Random random;
 
@@ -40,8 +40,15 @@ public final class ListOracleTest {
         for (int l = 0; l < 4; l++) {
             lists[l] = new Player();
         }
-        for (int e = 0; e < 8; e++) {
-            Check.lock(x, e, "event " + e);
+        for (int n = 0; n < 8; n++) {
+            int own = n;
+            rig.axes[n].lock = () -> rig.events[own];
+            Check.lock(x, n, "event " + n);
+        }
+        for (int n = 0; n < 6; n++) {
+            int acc = 1 + random.nextInt(5);
+            x.axis(n, 10, 60, 4 + n, acc);
+            rig.axis(n, 10, 60, 4 + n, acc);
         }
     }
 
@@ -71,11 +78,27 @@ public final class ListOracleTest {
                 if (c >= 0) {
                     plays(l, c, lists[l].cues.get(c).wait);
                 }
+            } else if (kind < 8) {
+                change();
             } else {
                 x.tick(1);
                 step();
+                rig.step();
             }
             compare();
+        }
+    }
+
+    private void change() {
+        int n = random.nextInt(8);
+        if (random.nextInt(3) == 0) {
+            boolean on = random.nextInt(3) == 0;
+            x.stop(on);
+            rig.stop(on);
+        } else {
+            boolean is = random.nextBoolean();
+            x.event(n, is);
+            rig.event(n, is);
         }
     }
 
@@ -148,7 +171,7 @@ public final class ListOracleTest {
     }
 
     private void act(Cue cue, StringBuilder text, int[] tracks) {
-        int kind = random.nextInt(6);
+        int kind = random.nextInt(9);
         if (kind < 3) {
             int first = 1 + random.nextInt(64);
             int second = Math.min(64, first + random.nextInt(20));
@@ -160,11 +183,20 @@ public final class ListOracleTest {
             for (int c = first; c <= second; c++) {
                 tracks[c] = level;
             }
-        } else if (kind == 3) {
+        } else if (kind < 5) {
+            int n = random.nextInt(7);
+            int p = 5 + random.nextInt(60);
+            text.append(" axis ").append(n).append(" to ").append(p).append(';');
+            cue.acts.add(new int[] {1, n, p});
+        } else if (kind == 5) {
+            int n = random.nextInt(8);
+            text.append(" let ").append(n).append(';');
+            cue.acts.add(new int[] {2, n, 0});
+        } else if (kind == 6) {
             int e = random.nextInt(8);
             text.append(" fire ").append(e).append(';');
             cue.acts.add(new int[] {3, e, 0});
-        } else if (kind == 4) {
+        } else if (kind == 7) {
             int l = random.nextInt(4);
             int name = anyName();
             text.append(" go ").append(l).append(' ').append(spell(name)).append(';');
@@ -226,8 +258,12 @@ public final class ListOracleTest {
             }
         }
         for (int[] act : cue.acts) {
-            if (act[0] == 3) {
-                events[act[1]] = true;
+            if (act[0] == 1) {
+                rig.to(act[1], act[2]);
+            } else if (act[0] == 2) {
+                rig.let(act[1]);
+            } else if (act[0] == 3) {
+                rig.event(act[1], true);
             } else if (act[0] == 5) {
                 lists[act[1]].master = act[2];
             } else {
@@ -310,8 +346,6 @@ public final class ListOracleTest {
             }
             Check.due("out " + c, x.out(c), out);
         }
-        for (int e = 0; e < 8; e++) {
-            Check.due("event", x.axisAt(e, 6), events[e] ? 1 : 0);
-        }
+        rig.compare("the rig", x);
     }
 }

@@ -399,7 +399,7 @@ public final class OracleTest {
     }
 
     /** Lone ones, row and distance, row, seat: the least of these fours. */
-    private static int[] best(int[][] rows, int[] sections, boolean[] cut, int desk, int s, int n) {
+    static int[] best(int[][] rows, int[] sections, boolean[] cut, int desk, int s, int n) {
         List<int[]> all = new ArrayList<>();
         for (int r = 0; r < 40; r++) {
             for (int k = 0; rows[r] != null && sections[r] == s && k + n <= rows[r].length; k++) {
