@@ -40,7 +40,7 @@ public final class BoxOracleTest {
     }
 
     public static void main(String[] args) {
-        for (int seed = 0; seed < 1500; seed++) {
+        for (int seed = 0; seed < 10000; seed++) {
             new BoxOracleTest(seed).run();
         }
         Check.end();
@@ -51,14 +51,10 @@ public final class BoxOracleTest {
             section();
             row();
         }
-        for (int turn = 0; turn < 90; turn++) {
+        for (int turn = 0; turn < 80; turn++) {
             turn();
-            compare();
-        }
-        for (int r = -1; r <= 40; r++) {
-            for (int k = -1; k <= 30; k++) {
-                boolean there = r >= 0 && r < 40 && rows[r] != null && k >= 0 && k < rows[r].length;
-                Check.due("seat", x.seat(r, k), there ? rows[r][k] : -1);
+            for (int i = 0; i < 4; i++) {
+                compare(any(3));
             }
         }
     }
@@ -311,16 +307,31 @@ public final class BoxOracleTest {
         }
     }
 
-    private void compare() {
-        for (int h = -1; h < 61; h += h < 8 ? 1 : 13) {
-            Hold hold = at(h);
-            Check.due("row of hold", x.hold(h, 0), hold == null ? -1 : hold.row);
-            Check.due("first of hold", x.hold(h, 1), hold == null ? -1 : hold.first);
-            Check.due("seats of hold", x.hold(h, 2), hold == null ? -1 : hold.many);
-            Check.due("price of hold", x.hold(h, 3), hold == null ? -1 : price(hold));
-            Check.due("tick of hold", x.hold(h, 4), hold == null ? -1 : hold.till);
+    /** One thing at random: all of them at every turn would soon be more calls than an object serves. */
+    private void compare(int kind) {
+        if (kind == 0) {
+            compareHold(anyHold(), near(0, 4));
+        } else if (kind == 1) {
+            int r = any(3) == 0 ? near(0, 39) : any(6);
+            int k = near(0, 29);
+            boolean there = in(r, 0, 39) && rows[r] != null && k >= 0 && k < rows[r].length;
+            Check.due("seat " + k + " of " + r, x.seat(r, k), there ? rows[r][k] : -1);
+        } else {
+            compareTold(any(6));
         }
-        int[] sums = new int[5];
+    }
+
+    private void compareHold(int h, int what) {
+        Hold hold = at(h);
+        int want = -1;
+        if (hold != null && in(what, 0, 4)) {
+            want = new int[] {hold.row, hold.first, hold.many, price(hold), hold.till}[what];
+        }
+        Check.due("hold " + h + ", " + what, x.hold(h, what), want);
+    }
+
+    private void compareTold(int what) {
+        int[] sums = new int[6];
         for (Ticket ticket : tickets) {
             sums[0] += ticket.returned ? 0 : ticket.paid;
             sums[1] += ticket.returned ? 0 : 1;
@@ -334,9 +345,7 @@ public final class BoxOracleTest {
         for (Hold hold : holds) {
             sums[3] += hold == null ? 0 : 1;
         }
-        for (int what = 0; what < 5; what++) {
-            Check.due("told " + what, x.told(what), sums[what]);
-        }
-        Check.due("now", x.told(5), now);
+        sums[5] = now;
+        Check.due("told " + what, x.told(what), sums[what]);
     }
 }

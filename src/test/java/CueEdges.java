@@ -34,6 +34,7 @@ final class CueEdges {
         longSpan();
         halves();
         sameTarget();
+        allButOne();
         Check.promise(14);
         outNone();
         outMasters();
@@ -502,6 +503,23 @@ final class CueEdges {
         Check.due("50 and a half is 51", x.level(0, 3), 51);
         x.tick(4);
         Check.due("over at its own time", x.level(0, 1), 100);
+    }
+
+    /** A cue that names every channel but one: that one alone is as in the cue before. */
+    private static void allButOne() {
+        for (int c = 1; c <= 64; c++) {
+            StageHouse x = new StageHouse();
+            String below = c > 1 ? "1-" + (c - 1) : "";
+            String above = c < 64 ? (c + 1) + "-64" : "";
+            String others = below + (c > 1 && c < 64 ? "," : "") + above;
+            Check.list(x, 2, "cue 1 { channels " + c + " at 100; } cue 2 { channels " + others + " at 50; } cue 3 { }");
+            for (int n = 2; n <= 3; n++) {
+                x.play(2, n, 0);
+                for (int k = 1; k <= 64; k++) {
+                    Check.due("all but " + c + " named, cue " + n + " of " + k, x.level(2, k), k == c ? 100 : 50);
+                }
+            }
+        }
     }
 
     private static void outNone() {

@@ -1,6 +1,9 @@
 import java.util.Random;
 
-/** Any arguments in any state: no call throws, and what is refused changes nothing. */
+/**
+ * Any arguments in any state: no call throws, and what is refused changes nothing. These objects hear more calls than
+ * the 512 that the document speaks of: that none may throw is a rule of the language, and that one knows no number.
+ */
 public final class FuzzTest {
     private static final int[] ODD = {Integer.MIN_VALUE, Integer.MAX_VALUE, -1, 0, 1, 2, 3, 4, 5, 7, 8, 11, 12, 15, 16, 20, 29, 30, 31,
         39, 40, 59, 60, 61, 63, 64, 65, 99, 100, 127, 128, 255, 256, 299, 300, 500, 501, 999, 1000, 99999, 100000};

@@ -53,7 +53,7 @@ public final class ListOracleTest {
     }
 
     public static void main(String[] args) {
-        for (int seed = 0; seed < 200; seed++) {
+        for (int seed = 0; seed < 10000; seed++) {
             new ListOracleTest(seed).run();
         }
         Check.end();
@@ -63,7 +63,7 @@ public final class ListOracleTest {
         for (int l = 0; l < 4; l++) {
             tellList(l);
         }
-        for (int turn = 0; turn < 150; turn++) {
+        for (int turn = 0; turn < 45; turn++) {
             int l = random.nextInt(4);
             int kind = random.nextInt(40);
             if (kind == 0) {
@@ -85,7 +85,9 @@ public final class ListOracleTest {
                 step();
                 rig.step();
             }
-            compare();
+            for (int i = 0; i < 3; i++) {
+                compare(random.nextInt(4));
+            }
         }
     }
 
@@ -129,9 +131,8 @@ public final class ListOracleTest {
             last[c] = last[c] == l ? -1 : last[c];
         }
         for (Cue cue : player.cues) {
-            for (int c = 1; c <= 64; c += 7) {
-                Check.due("tracks", x.tracks(l, cue.name / 100, cue.name % 100, c), cue.tracks[c]);
-            }
+            int c = 1 + random.nextInt(64);
+            Check.due("tracks", x.tracks(l, cue.name / 100, cue.name % 100, c), cue.tracks[c]);
         }
     }
 
@@ -320,32 +321,39 @@ public final class ListOracleTest {
         return (int) Math.floor(a * (double) b / 255 + 0.5);
     }
 
-    private void compare() {
-        for (int l = 0; l < 4; l++) {
-            Player player = lists[l];
-            int moving = 0;
-            for (int c = 1; c <= 64; c++) {
-                moving += player.level[c] != player.target[c] ? 1 : 0;
-                Check.due("level", x.level(l, c), player.level[c]);
-            }
-            Check.due("cue", x.of(l, 0), player.own < 0 ? 0 : player.cues.get(player.own).name);
-            Check.due("begins", x.of(l, 1), Math.max(0, player.begins));
-            Check.due("goes", x.of(l, 2), player.goes);
-            Check.due("master", x.of(l, 3), player.master);
-            Check.due("moving", x.of(l, 4), moving);
-            Check.due("cues", x.of(l, 5), player.cues.size());
+    /** One thing at random: all of them at every turn would soon be more calls than an object serves. */
+    private void compare(int kind) {
+        int l = random.nextInt(4);
+        int c = 1 + random.nextInt(64);
+        if (kind == 0) {
+            Check.due("level of " + c, x.level(l, c), lists[l].level[c]);
+        } else if (kind == 1) {
+            int what = random.nextInt(6);
+            Check.due("of " + what, x.of(l, what), of(lists[l], what));
+        } else if (kind == 2) {
+            Check.due("out " + c, x.out(c), out(c));
+        } else if (random.nextInt(3) == 0) {
+            rig.compare("the rig", x, random);
         }
+    }
+
+    private static int of(Player player, int what) {
+        int moving = 0;
         for (int c = 1; c <= 64; c++) {
-            int out = 0;
-            if (c <= 48) {
-                for (Player player : lists) {
-                    out = Math.max(out, part(player.level[c], player.master));
-                }
-            } else if (last[c] >= 0) {
-                out = lists[last[c]].level[c];
-            }
-            Check.due("out " + c, x.out(c), out);
+            moving += player.level[c] != player.target[c] ? 1 : 0;
         }
-        rig.compare("the rig", x);
+        int own = player.own < 0 ? 0 : player.cues.get(player.own).name;
+        return new int[] {own, Math.max(0, player.begins), player.goes, player.master, moving, player.cues.size()}[what];
+    }
+
+    private int out(int c) {
+        if (c > 48) {
+            return last[c] < 0 ? 0 : lists[last[c]].level[c];
+        }
+        int out = 0;
+        for (Player player : lists) {
+            out = Math.max(out, part(player.level[c], player.master));
+        }
+        return out;
     }
 }

@@ -14,7 +14,7 @@ public final class RigOracleTest {
     }
 
     public static void main(String[] args) {
-        for (int seed = 0; seed < 2000; seed++) {
+        for (int seed = 0; seed < 20000; seed++) {
             new RigOracleTest(seed).run();
         }
         Check.end();
@@ -27,9 +27,9 @@ public final class RigOracleTest {
                 place(n, small);
             }
         }
-        for (int turn = 0; turn < 80; turn++) {
+        for (int turn = 0; turn < 50; turn++) {
             String call = call(small);
-            rig.compare(call, x);
+            rig.compare(call, x, random);
         }
     }
 

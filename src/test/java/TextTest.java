@@ -89,12 +89,12 @@ public final class TextTest {
         x.cut(8);
         Check.due("a sign that was cut", x.lock(0), 0);
         String blanks = Check.many(" ", 3993);
-        Check.due("a number at the very end", Check.lock(x, 0, blanks + "event 1"), 0);
-        Check.due("a word at the very end", Check.lock(x, 0, blanks + "  event"), -10 - 4000);
-        Check.due("a sign at the very end", Check.lock(x, 0, blanks + "event 1".substring(0, 6) + ")"), -10 - 3999);
-        Check.due("blanks to the very end", Check.list(x, 0, Check.many(" ", 4000)), 0);
-        Check.due("a long number", Check.lock(x, 0, Check.many("9", 4000)), -10);
-        Check.due("a long word", Check.lock(x, 0, Check.many("z", 4000)), -10);
+        Check.due("a number at the very end", Check.lock(new StageHouse(), 0, blanks + "event 1"), 0);
+        Check.due("a word at the very end", Check.lock(new StageHouse(), 0, blanks + "  event"), -10 - 4000);
+        Check.due("a sign at the very end", Check.lock(new StageHouse(), 0, blanks + "event )"), -10 - 3999);
+        Check.due("blanks to the very end", Check.list(new StageHouse(), 0, Check.many(" ", 4000)), 0);
+        Check.due("a long number", Check.lock(new StageHouse(), 0, Check.many("9", 4000)), -10);
+        Check.due("a long word", Check.lock(new StageHouse(), 0, Check.many("z", 4000)), -10);
     }
 
     private static void tokens() {
