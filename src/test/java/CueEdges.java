@@ -49,6 +49,7 @@ final class CueEdges {
         Check.promise(17);
         wireNone();
         curves();
+        wireMoves();
     }
 
     private static void tracksNone() {
@@ -711,6 +712,29 @@ final class CueEdges {
             Check.due("grand behind the curve", x.wire(0), Math.round(want[3][i] * 128 / 255.0));
             x.patch(0, 1, 2);
             Check.due("128 and 255 are no less by it", x.wire(0), levels[i] > 127 ? 128 : 0);
+        }
+    }
+
+    /** A byte goes with its channel tick by tick, whatever the byte's number is. */
+    private static void wireMoves() {
+        StageHouse x = new StageHouse();
+        int[] bytes = {0, 3, 10, 127};
+        x.tick(20);
+        Check.list(x, 1, "cue 1 up 10 { channels 1,64 at 200; } cue 2 down 4 { channels 1,64 at 0; }");
+        x.go(1);
+        for (int tick = 0; tick <= 14; tick++) {
+            int level = tick <= 10 ? 20 * tick : 200 - 50 * (tick - 10);
+            int[] want = {level, Math.toIntExact(Math.round(level * level / 255.0)), level > 127 ? 255 : 0, 255 - level};
+            for (int b : bytes) {
+                for (int curve = 0; curve < 4; curve++) {
+                    x.patch(b, b == 3 ? 64 : 1, curve);
+                    Check.due("byte " + b + " by curve " + curve + " in tick " + tick, x.wire(b), want[curve]);
+                }
+            }
+            if (tick == 10) {
+                x.go(1);
+            }
+            x.tick(1);
         }
     }
 }

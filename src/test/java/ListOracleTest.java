@@ -31,6 +31,9 @@ public final class ListOracleTest {
     private Player[] lists = new Player[4];
     private final int[] last = new int[65];
     private final PlainRig rig = new PlainRig();
+    private final int[] patched = new int[128];
+    private final int[] curves = new int[128];
+    private int grand = 255;
     private final StageHouse x = new StageHouse();
     private final Random random;
 
@@ -44,6 +47,11 @@ public final class ListOracleTest {
             int own = n;
             rig.axes[n].lock = () -> rig.events[own];
             Check.lock(x, n, "event " + n);
+        }
+        for (int b = 0; b < 128; b += 1 + random.nextInt(8)) {
+            patched[b] = 1 + random.nextInt(64);
+            curves[b] = random.nextInt(4);
+            x.patch(b, patched[b], curves[b]);
         }
         for (int n = 0; n < 6; n++) {
             int acc = 1 + random.nextInt(5);
@@ -63,7 +71,7 @@ public final class ListOracleTest {
         for (int l = 0; l < 4; l++) {
             tellList(l);
         }
-        for (int turn = 0; turn < 45; turn++) {
+        for (int turn = 0; turn < 40; turn++) {
             int l = random.nextInt(4);
             int kind = random.nextInt(40);
             if (kind == 0) {
@@ -86,14 +94,24 @@ public final class ListOracleTest {
                 rig.step();
             }
             for (int i = 0; i < 3; i++) {
-                compare(random.nextInt(4));
+                compare(random.nextInt(5));
             }
         }
     }
 
     private void change() {
         int n = random.nextInt(8);
-        if (random.nextInt(3) == 0) {
+        int kind = random.nextInt(6);
+        if (kind == 0) {
+            grand = random.nextInt(256);
+            x.grand(grand);
+        } else if (kind < 3) {
+            int b = random.nextInt(128);
+            patched[b] = random.nextInt(65);
+            curves[b] = random.nextInt(4);
+            x.patch(b, patched[b], curves[b]);
+            Check.due("wire " + b, x.wire(b), wire(b));
+        } else if (kind == 3) {
             boolean on = random.nextInt(3) == 0;
             x.stop(on);
             rig.stop(on);
@@ -332,6 +350,9 @@ public final class ListOracleTest {
             Check.due("of " + what, x.of(l, what), of(lists[l], what));
         } else if (kind == 2) {
             Check.due("out " + c, x.out(c), out(c));
+        } else if (kind == 3) {
+            int b = random.nextInt(128);
+            Check.due("wire " + b, x.wire(b), wire(b));
         } else if (random.nextInt(3) == 0) {
             rig.compare("the rig", x, random);
         }
@@ -344,6 +365,15 @@ public final class ListOracleTest {
         }
         int own = player.own < 0 ? 0 : player.cues.get(player.own).name;
         return new int[] {own, Math.max(0, player.begins), player.goes, player.master, moving, player.cues.size()}[what];
+    }
+
+    private int wire(int b) {
+        if (patched[b] == 0) {
+            return 0;
+        }
+        int level = out(patched[b]);
+        int[] curved = {level, part(level, level), level >= 128 ? 255 : 0, 255 - level};
+        return part(curved[curves[b]], grand);
     }
 
     private int out(int c) {

@@ -23,6 +23,7 @@ final class WayEdges {
         capacity();
         waitingPays();
         allNodes();
+        noneAheadOfTime();
     }
 
     private static void wayNone() {
@@ -230,5 +231,22 @@ final class WayEdges {
             y.crowd(node, 60);
         }
         Check.due("all beside one another", y.empty(), 30);
+    }
+
+    /**
+     * By 3, three can begin at node 0 in tick 0 and one each in ticks 1 and 2: five of six. Who comes from node 1 in
+     * tick 1 can't begin in tick 0, though the wide way has room there.
+     */
+    private static void noneAheadOfTime() {
+        StageHouse x = new StageHouse();
+        x.way(0, 11, 1, 1);
+        x.way(0, 1, 2, 2);
+        x.way(1, 0, 2, 1);
+        x.way(0, 11, 3, 3);
+        x.crowd(0, 3);
+        x.crowd(1, 3);
+        Check.due("six by two ways of one node", x.empty(), 4);
+        x.crowd(1, 2);
+        Check.due("five of them", x.empty(), 3);
     }
 }
